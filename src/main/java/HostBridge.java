@@ -17,6 +17,9 @@ public final class HostBridge {
     /** No class, no method, or the weight of what does not fit. */
     private static final int NONE = -1;
 
+    /** What null is written down as where an object is due. */
+    private static final int NULL_OBJECT = -1;
+
     private static final int TRUTH_TYPE = 0;
     private static final int INT_TYPE = 1;
     private static final int LONG_TYPE = 2;
@@ -235,7 +238,7 @@ public final class HostBridge {
     }
 
     private static int typeAt(int types, int many, int i) {
-        return types >>> TYPE_BITS * (many - 1 - i) & TYPE_MASK;
+        return (types >>> (TYPE_BITS * (many - 1 - i))) & TYPE_MASK;
     }
 
     /** The classes with their parents, and the objects with their classes. */
@@ -259,7 +262,7 @@ public final class HostBridge {
 
         boolean hasTypes(int many, int types) {
             // Java shifts by 32 as by 0, and all four bytes used leave none above to look at.
-            if (many < MOST_PARAMETERS && types >>> TYPE_BITS * many != 0) {
+            if (many < MOST_PARAMETERS && (types >>> (TYPE_BITS * many)) != 0) {
                 return false;
             }
             for (int i = 0; i < many; i++) {
@@ -328,8 +331,30 @@ public final class HostBridge {
 
     /** The arguments for the next call. */
     private static final class Arguments {
+        /** Sorts of values are the kinds, NUMBER being one that is no LONG, and these two. */
+        private static final int INT_NUMBER = 7;
+        private static final int LONG_NUMBER = 8;
+
+        private static final int COLUMNS = 7;
+        private static final int OBJECT_COLUMN = 6;
+
+        /** The document's table: a row for each sort, with columns for the types. */
+        private static final int[] WEIGHTS = {
+            // truth, int, long, double, text, value, an object
+            -1, -1, -1, -1, 41, 0, -1, // undefined
+            -1, -1, -1, -1, 2, 0, 1, // null
+            0, -1, -1, -1, 3, 2, -1, // truth
+            6, -1, -1, 0, 5, 4, -1, // another number
+            -1, -1, -1, -1, 0, 2, -1, // text
+            -1, -1, -1, -1, 40, 20, -1, // host object, whose line tells the last one
+            -1, -1, -1, -1, 40, 0, -1, // another object
+            6, 0, 1, 2, 5, 4, -1, // an INT
+            6, -1, 0, 1, 5, 4, -1, // a LONG that is no INT
+        };
+
         private final World world;
         private final int[] kinds = new int[MOST_PARAMETERS];
+        private final int[] sorts = new int[MOST_PARAMETERS];
         private final long[] bits = new long[MOST_PARAMETERS];
         private int count;
 
@@ -339,9 +364,20 @@ public final class HostBridge {
 
         int add(int kind, long valueBits) {
             kinds[count] = kind;
+            sorts[count] = sortOf(kind, valueBits);
             bits[count] = valueBits;
             count++;
             return count;
+        }
+
+        private static int sortOf(int kind, long valueBits) {
+            if (kind != NUMBER) {
+                return kind;
+            }
+            if (Numbers.isInt(valueBits)) {
+                return INT_NUMBER;
+            }
+            return Numbers.isLong(valueBits) ? LONG_NUMBER : NUMBER;
         }
 
         /**
@@ -365,12 +401,12 @@ public final class HostBridge {
 
         int weightFor(int i, int type) {
             if (type < FIRST_OBJECT_TYPE) {
-                return Weights.ofPlainType(kinds[i], bits[i], type);
+                return WEIGHTS[sorts[i] * COLUMNS + type];
             }
             if (kinds[i] == HOST_OBJECT) {
                 return world.distance(world.classOf[(int) bits[i]], type - FIRST_OBJECT_TYPE);
             }
-            return kinds[i] == NULL ? Weights.NULL_FOR_OBJECT : NONE;
+            return WEIGHTS[sorts[i] * COLUMNS + OBJECT_COLUMN];
         }
 
         /** Argument i, which fits the type, as it is written down. */
@@ -387,37 +423,7 @@ public final class HostBridge {
             if (type < FIRST_OBJECT_TYPE) {
                 return kinds[i];
             }
-            return kinds[i] == NULL ? NONE : bits[i];
-        }
-    }
-
-    /** The document's table of weights, but for the objects' types. */
-    private static final class Weights {
-        private static final int NULL_FOR_OBJECT = 1;
-        private static final int COLUMNS = FIRST_OBJECT_TYPE;
-
-        /** A row for each kind; the number's row is that of one that is no LONG. */
-        private static final int[] OF_KIND = {
-            // truth, int, long, double, text, value
-            -1, -1, -1, -1, 41, 0,
-            -1, -1, -1, -1, 2, 0,
-            0, -1, -1, -1, 3, 2,
-            6, -1, -1, 0, 5, 4,
-            -1, -1, -1, -1, 0, 2,
-            -1, -1, -1, -1, 40, 20,
-            -1, -1, -1, -1, 40, 0,
-        };
-        private static final int[] OF_INT = {6, 0, 1, 2, 5, 4};
-        private static final int[] OF_LONG = {6, -1, 0, 1, 5, 4};
-
-        static int ofPlainType(int kind, long bits, int type) {
-            if (kind == NUMBER && Numbers.isInt(bits)) {
-                return OF_INT[type];
-            }
-            if (kind == NUMBER && Numbers.isLong(bits)) {
-                return OF_LONG[type];
-            }
-            return OF_KIND[kind * COLUMNS + type];
+            return kinds[i] == NULL ? NULL_OBJECT : bits[i];
         }
     }
 
@@ -450,7 +456,7 @@ public final class HostBridge {
             if (power == LONG_POWER) {
                 return fractionOf(bits) == 0;
             }
-            long behindPoint = (1L << FRACTION_BITS - power) - 1;
+            long behindPoint = (1L << (FRACTION_BITS - power)) - 1;
             return (fractionOf(bits) & behindPoint) == 0;
         }
 
@@ -462,8 +468,8 @@ public final class HostBridge {
             long digits = fractionOf(bits) | HIDDEN_ONE;
             int power = powerOf(bits);
             long size = power > FRACTION_BITS
-                    ? digits << power - FRACTION_BITS
-                    : digits >>> FRACTION_BITS - power;
+                    ? digits << (power - FRACTION_BITS)
+                    : digits >>> (FRACTION_BITS - power);
             return bits < 0 ? -size : size;
         }
 
@@ -484,11 +490,11 @@ public final class HostBridge {
         }
 
         private static int powerOf(long bits) {
-            return (int) (bits >>> FRACTION_BITS & EXPONENT_MASK) - EXPONENT_BIAS;
+            return (int) ((bits >>> FRACTION_BITS) & EXPONENT_MASK) - EXPONENT_BIAS;
         }
 
         private static long fractionOf(long bits) {
-            return bits & HIDDEN_ONE - 1;
+            return bits & (HIDDEN_ONE - 1);
         }
     }
 

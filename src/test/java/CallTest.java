@@ -7,6 +7,8 @@ public final class CallTest {
         aThirdMayBeatTwo();
         nearerMethodsHide();
         methodsOutsideTheLineAreNotSeen();
+        theWholeLineIsSeen();
+        allMethodsMayBeCandidates();
         nameAndNumberOfArgumentsCount();
         argumentsAreGone();
         wrongInputsAreRefused();
@@ -105,6 +107,37 @@ public final class CallTest {
         x.method(1, 1, 0, 0, 0);
         Check.dueThrow("a child's method", Check.NO_ELEMENT, () -> x.call(0, 1));
         Check.dueThrow("a sibling's method", Check.NO_ELEMENT, () -> x.call(1, 1));
+    }
+
+    private static void theWholeLineIsSeen() {
+        HostBridge x = new HostBridge();
+        for (int i = 0; i < 16; i++) {
+            x.klass(i - 1);
+        }
+        x.object(15);
+        x.method(0, 1, 0, 0, 0);
+        Check.due("the first class's method", x.call(0, 1), 0);
+        x.method(15, 1, 0, 0, 0);
+        Check.due("the last class's method", x.call(0, 1), 1);
+    }
+
+    private static void allMethodsMayBeCandidates() {
+        HostBridge x = oneObject();
+        for (int i = 0; i < 64; i++) {
+            int types = 0;
+            for (int at = 0; at < 4; at++) {
+                types = types << 8 | 2 + (i >> 2 * at & 3);
+            }
+            x.method(0, 1, 4, types, 0);
+        }
+        for (int i = 0; i < 4; i++) {
+            x.argument(3, 0);
+        }
+        Check.due("the only one with four longs", x.call(0, 1), 0);
+        for (int i = 0; i < 4; i++) {
+            x.argument(4, 0);
+        }
+        Check.dueThrow("texts for long", Check.NO_ELEMENT, () -> x.call(0, 1));
     }
 
     private static void nameAndNumberOfArgumentsCount() {

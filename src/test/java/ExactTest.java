@@ -3,6 +3,7 @@ public final class ExactTest {
     public static void main(String[] args) {
         theTypesChoose();
         nearerMethodsHide();
+        theWholeLineIsSeen();
         noSuchMethodOrNoFit();
         wrongInputsAreRefused();
         argumentsAreGone();
@@ -52,6 +53,18 @@ public final class ExactTest {
         Check.due("the nearer one", x.exact(0, 1, 0), 1);
         Check.due("the farther class's object", x.exact(1, 1, 0), 0);
         Check.dueThrow("a child's method", Check.NO_ELEMENT, () -> x.exact(1, 2, 0));
+    }
+
+    private static void theWholeLineIsSeen() {
+        HostBridge x = new HostBridge();
+        for (int i = 0; i < 16; i++) {
+            x.klass(i - 1);
+        }
+        x.object(15);
+        x.method(0, 1, 0, 0, 0);
+        Check.due("the first class's method", x.exact(0, 1, 0), 0);
+        x.method(15, 1, 0, 0, 0);
+        Check.due("the last class's method", x.exact(0, 1, 0), 1);
     }
 
     private static void noSuchMethodOrNoFit() {

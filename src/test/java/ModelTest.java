@@ -50,11 +50,11 @@ public final class ModelTest {
     private static void step(int run, HostBridge x, Model y, int which, int[] p, Random random) {
         int klass = near(random, y.parents.size());
         int object = near(random, y.classOf.size());
-        int name = random.nextInt(60) == 0 ? 1000 * random.nextInt(2) - random.nextInt(2) : random.nextInt(3);
+        int name = random.nextInt(60) == 0 ? 1000 * random.nextInt(2) - random.nextInt(2) : random.nextInt(2);
         switch (which) {
             case 0 -> same(run, "klass", () -> x.klass(klass), () -> y.klass(klass));
             case 1 -> {
-                int many = random.nextInt(40) == 0 ? p[0] : random.nextInt(4) + random.nextInt(2);
+                int many = random.nextInt(40) == 0 ? p[0] : random.nextInt(2) + random.nextInt(4);
                 int types = someTypes(random, Math.max(0, Math.min(many, 4)), y.parents.size());
                 int result = random.nextInt(40) == 0 ? p[1] : random.nextInt(6);
                 same(run, "method", () -> x.method(klass, name, many, types, result),
@@ -62,9 +62,11 @@ public final class ModelTest {
             }
             case 2 -> same(run, "object", () -> x.object(klass), () -> y.object(klass));
             case 3, 4 -> {
-                int kind = random.nextInt(60) == 0 ? p[0] : random.nextInt(7);
-                long bits = someBits(random, kind, object);
-                same(run, "argument", () -> x.argument(kind, bits), () -> y.argument(kind, bits));
+                for (int i = random.nextInt(3); i >= 0; i--) {
+                    int kind = random.nextInt(60) == 0 ? p[0] : random.nextInt(7);
+                    long bits = someBits(random, kind, object);
+                    same(run, "argument", () -> x.argument(kind, bits), () -> y.argument(kind, bits));
+                }
             }
             case 5 -> {
                 int i = near(random, y.kinds.size());
@@ -86,9 +88,9 @@ public final class ModelTest {
                 same(run, "calls", () -> x.calls(), () -> y.made.size());
             }
             default -> {
-                int k = y.made.size() - random.nextInt(70);
+                int k = y.made.size() - random.nextInt(Math.min(70, y.made.size() + 3));
                 int what = random.nextInt(20) == 0 ? p[0] : random.nextInt(3);
-                int i = random.nextInt(6) - 1;
+                int i = random.nextInt(4) - (random.nextInt(10) == 0 ? 1 : 0);
                 same(run, "look", () -> x.look(k, what), () -> y.look(k, what));
                 same(run, "converted", () -> x.converted(k, i), () -> y.converted(k, i));
             }
@@ -116,14 +118,19 @@ public final class ModelTest {
     private static int someTypes(Random random, int many, int classes) {
         int types = 0;
         for (int i = 0; i < many; i++) {
-            types = types << 8 | random.nextInt(6 + classes);
+            // Most values fit text and value, so these make calls with several candidates.
+            int type = random.nextBoolean() ? 4 + random.nextInt(2) : random.nextInt(6 + classes);
+            types = types << 8 | type;
         }
         return random.nextInt(40) == 0 ? types ^ 1 << random.nextInt(32) : types;
     }
 
     private static int exactTypes(Random random, Model y) {
-        if (random.nextInt(4) != 0 && !y.methods.isEmpty()) {
-            return Check.types(y.methods.get(random.nextInt(y.methods.size())).types);
+        for (int tries = random.nextInt(20); tries > 0 && !y.methods.isEmpty(); tries--) {
+            int[] types = y.methods.get(random.nextInt(y.methods.size())).types;
+            if (types.length == y.kinds.size()) {
+                return Check.types(types);
+            }
         }
         return someTypes(random, y.kinds.size(), y.parents.size());
     }
