@@ -5,13 +5,28 @@ final class Check {
     static final Class<? extends Throwable> NO_ELEMENT = java.util.NoSuchElementException.class;
     static final Class<? extends Throwable> OUT_OF_BOUNDS = IndexOutOfBoundsException.class;
 
+    /** Numbers that no index, count or type can be, whatever an object holds. */
+    static final int[] FAR_OFF = {Integer.MIN_VALUE, -1000, 1000, 65536, Integer.MAX_VALUE};
+
     private static int wrong = 0;
+    private static String words = "";
 
     private Check() {
     }
 
     interface Call {
         void run();
+    }
+
+    /** A test of its own for a sentence of the document, which its words tell. */
+    static void sentence(String sentence, Call test) {
+        words = "\"" + sentence + "\": ";
+        try {
+            test.run();
+        } catch (RuntimeException e) {
+            complain("a call that has an answer threw " + e);
+        }
+        words = "";
     }
 
     static void due(String what, long got, long want) {
@@ -35,7 +50,7 @@ final class Check {
 
     static void complain(String text) {
         wrong++;
-        System.out.println(text);
+        System.out.println(words + text);
     }
 
     static void end() {
