@@ -75,10 +75,10 @@ public final class AnswerTest {
             }
             for (int i = 0; i < 2; i++) {
                 x.call(0, 0);
+                Check.due("given " + gone, x.given(), 1000 + gone);
                 gone++;
             }
         }
-        Check.due("the latest given", x.given(), 1000 + gone - 1);
         x.answer(1000 + came++);
         x.answer(1000 + came);
         Check.dueThrow("it is full", Check.ILLEGAL_STATE, () -> x.answer(99));

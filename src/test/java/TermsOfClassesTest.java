@@ -73,13 +73,13 @@ public final class TermsOfClassesTest {
             x.klass(-1);
         }
         for (int i = 0; i < 64; i++) {
-            x.object(15 - i % 16);
+            x.object(i % 16);
         }
         x.method(0, 0, 0, 0, 0);
         for (int i = 0; i < 64; i++) {
             x.argument(Bridges.HOST, i);
-            Check.due("object " + i + " is of its class", x.weight(0, 6 + 15 - i % 16), 0);
-            Check.due("object " + i + " is not of the next one", x.weight(0, 6 + (16 - i % 16) % 16), -1);
+            Check.due("object " + i + " is of its class", x.weight(0, 6 + i % 16), 0);
+            Check.due("object " + i + " is not of the next one", x.weight(0, 6 + (i + 1) % 16), -1);
             Check.dueThrow("no method takes it", Check.NO_ELEMENT, () -> x.call(63, 0));
         }
     }
